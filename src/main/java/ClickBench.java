@@ -53,7 +53,10 @@ public final class ClickBench {
     private static final int[] GREATEST_SETTINGS = {1000, 2, 100, 50, 1000, 1, 500};
     private static final int[] FIRST_SETTINGS = {340, 1, 0, 0, 10, 0, 20};
 
+    /** The values of the whole, and those of them that need a survey. */
     private static final int GREATEST_WHOLE = 10;
+    private static final int FIRST_SURVEYED_WHOLE = 6;
+    private static final int LAST_SURVEYED_WHOLE = 9;
 
     /** Tells the survey that it leaves out no microphone. */
     private static final int NOBODY = -1;
@@ -233,7 +236,9 @@ public final class ClickBench {
 
     public int whole(int what) throws IllegalArgumentException {
         requireRange(isBetween(what, 0, GREATEST_WHOLE));
-        survey.take(bench, NOBODY);
+        if (isBetween(what, FIRST_SURVEYED_WHOLE, LAST_SURVEYED_WHOLE)) {
+            survey.take(bench, NOBODY);
+        }
         return valueOfWhole(what);
     }
 
@@ -392,7 +397,7 @@ public final class ClickBench {
         }
     }
 
-    /** The survey must be taken before. */
+    /** For 6 to 9 the survey must be taken before. */
     private int valueOfWhole(int what) {
         switch (what) {
             case 0:
@@ -714,6 +719,7 @@ public final class ClickBench {
             return false;
         }
 
+        /** Every draw moves s on, whatever comes of it. */
         int draw(int below) {
             s = (int) ((1103515245L * s + 12345L) % 2147483648L);
             return below < 1 ? 0 : (s / 65536) % below;
@@ -725,10 +731,11 @@ public final class ClickBench {
         private Sound() {
         }
 
+        /** The root of dx * dx + dy * dy, bit by bit; no way on a bench needs more than 15 bits. */
         static int way(int dx, int dy) {
             long square = (long) dx * dx + (long) dy * dy;
             long root = 0;
-            for (long bit = 1L << 15; bit > 0; bit >>= 1) {
+            for (long bit = 1L << 14; bit > 0; bit >>= 1) {
                 if ((root + bit) * (root + bit) <= square) {
                     root += bit;
                 }
@@ -1167,6 +1174,7 @@ public final class ClickBench {
         private int place = FRONT;
         private int wordStart = 0;
         private Command command = null;
+        /** How many numbers of the command are complete. */
         private int numbersRead = 0;
         private int digits = 0;
 

@@ -86,6 +86,26 @@ public final class CellsTest {
         Check.throwing("error(-1)", Check.INDEX, () -> bench.error(-1));
         votesComeBeforeErrors();
         lowestNumber();
+        greatestField();
+    }
+
+    private static void greatestField() {
+        ClickBench bench = new ClickBench();
+        bench.begin(20, 20);
+        bench.set(6, 0);
+        bench.addMicrophone(1950, 1950);
+        bench.addMicrophone(0, 1950);
+        bench.addMicrophone(1950, 0);
+        bench.click(1950, 1950, 5);
+        Check.due("the last cell is found", 399, bench.found());
+        Check.due("its votes", 3, bench.votes(399));
+        Check.due("its error", 0, bench.error(399));
+        Check.due("its row", 19.0, bench.middle(true));
+        Check.due("its column", 19.0, bench.middle(false));
+        bench.setClock(0, -7);
+        bench.click(1950, 1950, 5);
+        Check.due("an error of the last cell", 14, bench.error(399));
+        Check.throwing("votes(400)", Check.INDEX, () -> bench.votes(400));
     }
 
     /** The third clock is far off: the place has one vote of three, and other cells less error. */
@@ -145,6 +165,12 @@ public final class CellsTest {
         bench.click(50, 50, 0);
         Check.due("all agree: blame", 0, bench.blame(2));
         Check.due("all agree: suspect", NONE, bench.suspect());
+        bench.setClock(1, 20);
+        bench.click(50, 50, 0);
+        Check.due("a difference of the tolerance is no blame", 0, bench.blame(1));
+        bench.setClock(1, 21);
+        bench.click(50, 50, 0);
+        Check.due("one more is", 2, bench.blame(1));
         bench.setClock(1, 200);
         bench.click(50, 50, 0);
         Check.due("blame 0", 1, bench.blame(0));
@@ -162,9 +188,10 @@ public final class CellsTest {
         Check.due("blames alike", 2, bench.blame(2));
         Check.due("the lowest of those alike", 0, bench.suspect());
         bench.remove(0, 1);
+        Check.due("a blame of 1 is enough", 0, bench.suspect());
         bench.remove(0, 1);
-        Check.due("no pair: blame", NONE, bench.blame(0));
         Check.due("no pair: suspect", NONE, bench.suspect());
+        Check.due("no pair: blame", NONE, bench.blame(0));
         Check.throwing("blame(1)", Check.INDEX, () -> bench.blame(1));
         Check.throwing("blame(-1)", Check.INDEX, () -> bench.blame(-1));
     }
@@ -180,6 +207,7 @@ public final class CellsTest {
         Check.due("without 0, as the others tell", 0, bench.foundWithout(0));
         Check.due("without 1, least error", 2, bench.foundWithout(1));
         Check.due("without 2, least error", 1, bench.foundWithout(2));
+        Check.due("the whole is as before", 3, bench.whole(7));
         Check.due("found is as before", found, bench.found());
         Check.due("nothing is changed", digest, bench.digest());
         bench.addMicrophone(0, 0);

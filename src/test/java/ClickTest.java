@@ -54,8 +54,8 @@ public final class ClickTest {
         }
         Check.refused(empty, "click without microphones", Check.STATE, () -> empty.click(0, 0, 0));
         Check.refused(empty, "calibrate without microphones", Check.STATE, () -> empty.calibrate(0, 0, 0));
-        Check.due("edges", 0, bench.click(-1000, 3000, 0) - 2);
-        Check.due("other edges", 0, bench.click(3000, -1000, 0) - 2);
+        Check.due("a corner", 2, bench.click(-1000, 3000, 0));
+        Check.due("the other corner", 2, bench.click(3000, -1000, 0));
     }
 
     /** From s = 1, s / 65536 is 16838, 5758, 10113, 17515, 31051, 5627, 23010 and so on. */
@@ -83,6 +83,13 @@ public final class ClickTest {
         bench.click(300, 400, 0);
         Check.due("5758 % 101 - 50", 1470 + 1 - 50, bench.note(0));
         Check.due("17515 % 101 - 50", 1470 + 42 - 50, bench.note(1));
+        bench.set(3, 1);
+        bench.setS(1);
+        bench.click(300, 400, 0);
+        Check.due("5758 % 3 - 1", 1470 + 1 - 1, bench.note(0));
+        Check.due("17515 % 3 - 1", 1470 + 1 - 1, bench.note(1));
+        Check.due("5627 % 3 - 1", 1470 + 2 - 1, bench.note(2));
+        Check.due("7419 % 3 - 1", 1470 + 0 - 1, bench.note(3));
         bench.set(2, 100);
         Check.due("all is lost", 0, bench.click(300, 400, 0));
         bench.setS(0);
@@ -145,6 +152,7 @@ public final class ClickTest {
         bench.addMicrophone(300, 0);
         bench.setClock(1, 300);
         Check.due("calibrate", 1, bench.calibrate(300, 400, 7));
+        Check.due("a draw for each arrival", draws(1, 3), bench.whole(10));
         Check.due("offset 0", 0, bench.part(0, 0, 3));
         Check.due("offset 1", 300, bench.part(0, 1, 3));
         Check.due("offset 2", 0, bench.part(0, 2, 3));
@@ -296,6 +304,8 @@ public final class ClickTest {
         bench.set(0, 100);
         arrival(bench, 1, 1, 640, 6400, 6);
         Check.due("a great index", NONE, bench.arrival(300, 400, 0, Integer.MAX_VALUE, 0));
+        Check.due("way 900", 100, bench.arrival(900, 0, 0, 0, 3));
+        Check.due("way 901", 99, bench.arrival(901, 0, 0, 0, 3));
         Check.due("a way of 0", 1000, bench.arrival(0, 0, 0, 0, 3));
         twoWallsInOneDirection();
         Check.throwing("no microphone", Check.INDEX, () -> bench.arrival(-1001, 0, 1, -1, 4));

@@ -76,8 +76,9 @@ public final class CommandsTest {
     }
 
     private static void faults() {
-        String[] fine = {"", " ", "mic 1 2;", " mic  1   2 ;  ", "mic 00001 00002;set 00000 00340;", "click 99999 99999 99999;",
-            "mic 1 2;mic 1 2;", "field 1 1;", "wall 2 2 2;", "screen 1 2 3 4;", "known 1 2 3;", "set 9 9;"};
+        String[] fine = {"", " ", "mic 1 2;", " mic  1   2 ;  ", "mic 00001 00002;set 00000 00340;",
+            "click 99999 99999 99999;", "mic 1 2;mic 1 2;", "field 1 1;",
+            "wall 2 2 2;", "screen 1 2 3 4;", "known 1 2 3;", "set 9 9;"};
         for (String text : fine) {
             fault(text, FINE);
         }
@@ -90,6 +91,8 @@ public final class CommandsTest {
         fault("mi", 0);
         fault("  mi", 2);
         fault("mi 1 2;", 0);
+        fault("nic 1 2;", 0);
+        fault("wald 1 2 3;", 0);
         fault("micc 1 2;", 0);
         fault("mic 1 2; c", 9);
         fault("mic 1 2; clicks 1", 9);
@@ -141,7 +144,8 @@ public final class CommandsTest {
         ClickBench typed = new ClickBench();
         ClickBench called = new ClickBench();
         Check.due("all commands", 4, Check.run(typed, "field 5 4;mic 1 2;mic 300 20;wall 1 7 30;"));
-        Check.due("all commands", 5, Check.run(typed, "screen 0 11 12 13;set 1 2;click 40 50 6;known 70 80 9;click 3 2 1;"));
+        String others = "screen 0 11 12 13;set 1 2;click 40 50 6;known 70 80 9;click 3 2 1;";
+        Check.due("all commands", 5, Check.run(typed, others));
         typed.clearCommands();
         called.begin(5, 4);
         called.addMicrophone(1, 2);
