@@ -4,6 +4,7 @@ final class Check {
     static final String ARGUMENT = "IllegalArgumentException";
     static final String STATE = "IllegalStateException";
 
+    private static String sentence = "";
     private static int wrong = 0;
     private static int checked = 0;
 
@@ -12,6 +13,16 @@ final class Check {
 
     interface Call {
         void run();
+    }
+
+    /** What follows looks at this sentence of a promise of the document. */
+    static void says(int promise, String quote) {
+        sentence = "promise " + promise + ": \"" + quote + "\"";
+    }
+
+    /** What follows looks at this sentence of the document's terms. */
+    static void says(String terms, String quote) {
+        sentence = terms + ": \"" + quote + "\"";
     }
 
     static void due(String what, long want, long got) {
@@ -80,6 +91,9 @@ final class Check {
         wrong++;
         if (wrong <= 50) {
             System.out.println(line);
+            if (!sentence.isEmpty()) {
+                System.out.println("    the document says, " + sentence);
+            }
         }
     }
 }
